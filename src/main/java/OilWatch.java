@@ -251,7 +251,7 @@ public final class OilWatch {
         for (int i = 0; i < PARTIES; i++) {
             all += partsOf[i];
         }
-        return all == 0 ? 0 : shareOf(party, wholeBill(), all);
+        return shareOf(party, wholeBill(), all);
     }
 
     public int told(int skimmer, int what) {
@@ -485,7 +485,7 @@ public final class OilWatch {
 
     /** The bill stays below 3 million, so a hundred times it fits an int. */
     private int shareOf(int party, int whole, int all) {
-        if (all <= 0) {
+        if (all == 0) {
             return 0;
         }
         int left = whole;

@@ -16,6 +16,7 @@ public final class PromiseTest {
         promise2ShoreRefusedWhereSomethingIs();
         promise3Weather();
         promise4Boom();
+        promise4BoomsBetweenAllCells();
         promise5Lift();
         promise6Spill();
         promise7Skimmer();
@@ -24,6 +25,7 @@ public final class PromiseTest {
         promise9Empty();
         promise10Go();
         promise10Drift();
+        promise10DriftFromEveryCell();
         promise10BoomsHold();
         promise10LossByAge();
         promise10Skimming();
@@ -188,6 +190,25 @@ public final class PromiseTest {
         x.lift(4);
         due("boom(90, 91, 5): the least free", x.boom(90, 91, 5), 4);
         due("boom(91, 92, 5)", x.boom(91, 92, 5), 11);
+    }
+
+    private static void promise4BoomsBetweenAllCells() {
+        for (int a = 0; a < 96; a++) {
+            OilWatch x = begin("promise 4, beside cell " + a);
+            for (int b = 0; b < 96; b++) {
+                boolean beside = Math.abs(a / 12 - b / 12) + Math.abs(a % 12 - b % 12) == 1;
+                due("boom(" + a + ", " + b + ", 1)", x.boom(a, b, 1) != NONE, beside);
+            }
+            int number = x.count(9);
+            for (int b = 0; b < 95; b++) {
+                boolean eastward = b % 12 < 11 && b != a && b + 1 != a;
+                due("boom(" + b + ", " + (b + 1) + ", 1)", x.boom(b, b + 1, 1), eastward ? number : NONE);
+                due("lift(" + number + ")", x.lift(number), eastward);
+                boolean southward = b < 84 && b != a && b + 12 != a;
+                due("boom(" + b + ", " + (b + 12) + ", 1)", x.boom(b, b + 12, 1), southward ? number : NONE);
+                due("lift(" + number + ")", x.lift(number), southward);
+            }
+        }
     }
 
     private static void promise5Lift() {
@@ -426,6 +447,43 @@ public final class PromiseTest {
         due("count(3): 15 and 7", x.count(3), 22);
     }
 
+    private static void promise10DriftFromEveryCell() {
+        int[] rowSteps = {0, -1, 0, 1, 0};
+        int[] columnSteps = {0, 0, 1, 0, -1};
+        for (int cell = 0; cell < 96; cell++) {
+            for (int way = 0; way <= 4; way++) {
+                OilWatch x = begin("promise 10, from cell " + cell + " by way " + way);
+                int row = cell / 12 + rowSteps[way];
+                int column = cell % 12 + columnSteps[way];
+                boolean leaves = row < 0 || row > 7 || column < 0 || column > 11;
+                x.spill(cell, 30);
+                x.ship(1, cell, 0);
+                x.weather(0, 0, way, 5);
+                x.go(1);
+                due("oil(" + cell + ")", x.oil(cell), way == 0 ? 30 : 15);
+                due("count(5)", x.count(5), leaves ? 15 : 0);
+                due("count(2)", x.count(2), leaves ? 15 : 30);
+                if (!leaves && way != 0) {
+                    due("oil ahead", x.oil(row * 12 + column), 15);
+                }
+                for (int other = 0; other < 96; other++) {
+                    boolean ahead = !leaves && other == row * 12 + column;
+                    due("could(0, " + other + ")", x.could(0, other), other == cell || ahead);
+                }
+                OilWatch y = begin("promise 10, ashore from cell " + cell + " by way " + way);
+                if (!leaves && way != 0) {
+                    y.shore(row * 12 + column, 3);
+                    y.spill(cell, 2000);
+                    y.weather(0, 0, way, 5);
+                    due("foretold(0, 1)", y.foretold(0, 1), 3);
+                    y.go(1);
+                    due("count(4)", y.count(4), 1000);
+                    due("count(7)", y.count(7), 3);
+                }
+            }
+        }
+    }
+
     private static void promise10BoomsHold() {
         OilWatch x = begin("promise 10, booms");
         x.boom(51, 50, 4);
@@ -634,6 +692,13 @@ public final class PromiseTest {
         x.go(1);
         due("best(0, 1, 0) in the next hour", x.best(0, 1, 0), 941);
         due("best(0, 1, 1)", x.best(0, 1, 1), 52);
+        x = begin("promise 14, in the net's corners");
+        x.skimmer(0, 10, 100, 2);
+        x.skimmer(95, 10, 100, 2);
+        x.spill(0, 500);
+        x.spill(95, 500);
+        due("best(0, 1, 1)", x.best(0, 1, 1), 0);
+        due("best(1, 1, 1)", x.best(1, 1, 1), 95);
         x = begin("promise 14, room and the true world's weather");
         x.skimmer(50, 1000, 300, 3);
         x.spill(53, 1000);
