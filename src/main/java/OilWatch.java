@@ -17,6 +17,7 @@ public final class OilWatch {
     private static final int EAST = 2;
     private static final int SOUTH = 3;
     private static final int WEST = 4;
+    private static final int WAYS = 5;
     private static final int TOP_FORCE = 9;
 
     private static final int MOST_BOOMS = 20;
@@ -97,7 +98,8 @@ public final class OilWatch {
         if (!net.isSea(a) || !net.isSea(b) || !isWithin(limit, 0, TOP_FORCE)) {
             return NONE;
         }
-        return booms.lay(Booms.edgeBetween(a, b), limit);
+        int way = Net.wayBeside(a, b);
+        return way == NO_WAY ? NONE : booms.lay(a, way, limit);
     }
 
     public boolean lift(int boom) {
@@ -327,7 +329,7 @@ public final class OilWatch {
         if (target == NONE) {
             slick.away += drifting;
         } else {
-            if (booms.hold(cell, target, force)) {
+            if (booms.hold(cell, way, force)) {
                 drifting /= 10;
             }
             slick.liters[target] += drifting;
@@ -525,6 +527,26 @@ public final class OilWatch {
             }
         }
 
+        static int opposite(int way) {
+            switch (way) {
+                case NORTH: return SOUTH;
+                case EAST: return WEST;
+                case SOUTH: return NORTH;
+                case WEST: return EAST;
+                default: return NO_WAY;
+            }
+        }
+
+        /** The way from a cell to one side by side with it, or NO_WAY. */
+        static int wayBeside(int from, int to) {
+            for (int way = NORTH; way <= WEST; way++) {
+                if (ahead(from, way) == to) {
+                    return way;
+                }
+            }
+            return NO_WAY;
+        }
+
         static int distance(int a, int b) {
             return Math.abs(a / COLUMNS - b / COLUMNS) + Math.abs(a % COLUMNS - b % COLUMNS);
         }
@@ -545,42 +567,31 @@ public final class OilWatch {
         }
     }
 
-    /** Booms by number, and their limits by the edge between two cells where they lie. */
+    /** Booms by number, and their limits by the cell and the way from which oil comes to them, on both sides. */
     private static final class Booms {
-        final int[] edges = new int[MOST_BOOMS];
-        final int[] limits = new int[2 * CELLS];
+        final int[] cells = new int[MOST_BOOMS];
+        final int[] ways = new int[MOST_BOOMS];
+        final int[] limits = new int[CELLS * WAYS];
         int size;
 
         Booms() {
             for (int i = 0; i < MOST_BOOMS; i++) {
-                edges[i] = NONE;
+                cells[i] = NONE;
             }
-            for (int i = 0; i < 2 * CELLS; i++) {
+            for (int i = 0; i < CELLS * WAYS; i++) {
                 limits[i] = NONE;
             }
         }
 
-        /** Edges have even numbers to the east of a cell and odd ones to its south; NONE for cells apart. */
-        static int edgeBetween(int a, int b) {
-            int lesser = Math.min(a, b);
-            int greater = Math.max(a, b);
-            if (!Net.isCell(lesser) || !Net.isCell(greater)) {
-                return NONE;
-            }
-            if (Net.ahead(lesser, EAST) == greater) {
-                return 2 * lesser;
-            }
-            return Net.ahead(lesser, SOUTH) == greater ? 2 * lesser + 1 : NONE;
-        }
-
-        int lay(int edge, int limit) {
-            if (edge == NONE || limits[edge] != NONE) {
+        int lay(int cell, int way, int limit) {
+            if (limits[cell * WAYS + way] != NONE) {
                 return NONE;
             }
             for (int i = 0; i < MOST_BOOMS; i++) {
-                if (edges[i] == NONE) {
-                    edges[i] = edge;
-                    limits[edge] = limit;
+                if (cells[i] == NONE) {
+                    cells[i] = cell;
+                    ways[i] = way;
+                    limitBothSides(cell, way, limit);
                     size++;
                     return i;
                 }
@@ -589,18 +600,26 @@ public final class OilWatch {
         }
 
         boolean takeUp(int number) {
-            if (number < 0 || number >= MOST_BOOMS || edges[number] == NONE) {
+            if (number < 0 || number >= MOST_BOOMS || cells[number] == NONE) {
                 return false;
             }
-            limits[edges[number]] = NONE;
-            edges[number] = NONE;
+            limitBothSides(cells[number], ways[number], NONE);
+            cells[number] = NONE;
             size--;
             return true;
         }
 
+        private void limitBothSides(int cell, int way, int limit) {
+            int beyond = Net.ahead(cell, way);
+            limits[cell * WAYS + way] = limit;
+            if (beyond != NONE) {
+                limits[beyond * WAYS + Net.opposite(way)] = limit;
+            }
+        }
+
         boolean endAt(int cell) {
             for (int way = NORTH; way <= WEST; way++) {
-                if (limitBetween(cell, Net.ahead(cell, way)) != NONE) {
+                if (limits[cell * WAYS + way] != NONE) {
                     return true;
                 }
             }
@@ -608,13 +627,8 @@ public final class OilWatch {
         }
 
         /** Where no boom lies the limit is NONE: below every force, so that it holds nothing. */
-        boolean hold(int from, int to, int force) {
-            return force <= limitBetween(from, to);
-        }
-
-        private int limitBetween(int a, int b) {
-            int edge = edgeBetween(a, b);
-            return edge == NONE ? NONE : limits[edge];
+        boolean hold(int cell, int way, int force) {
+            return force <= limits[cell * WAYS + way];
         }
     }
 
