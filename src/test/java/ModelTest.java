@@ -4,7 +4,7 @@ import java.util.Random;
 /** Runs of calls drawn by a fixed seed, each answer compared with the plain model's. */
 public final class ModelTest {
     private static final int RUNS = 400;
-    private static final int CALLS = 512;
+    private static final int DRAWS = 512;
     private static final int KINDS = 20;
 
     private final Checks checks;
@@ -35,7 +35,7 @@ public final class ModelTest {
         for (int i = 0; i < 40; i++) {
             callKind(i < 25 ? 0 : i < 30 ? 4 : random.nextInt(KINDS));
         }
-        for (int i = 40; i < CALLS - 12 && !checks.hasWrong(); i++) {
+        for (int i = 40; i < DRAWS - 12 && !checks.hasWrong(); i++) {
             callKind(random.nextInt(KINDS));
         }
         for (int what = 0; what <= 11; what++) {
