@@ -131,7 +131,7 @@ public final class OilWatch {
             return false;
         }
         Skimmer sailing = fleet.skimmers[skimmer];
-        if (sailing.went || !net.isWayOverSea(sailing.cell, cell, sailing.speed)) {
+        if (sailing.went || !isWayOverSea(net, sailing.cell, cell, sailing.speed)) {
             return false;
         }
         sailing.cell = cell;
@@ -401,7 +401,7 @@ public final class OilWatch {
         int laterHope = skimmer.rate * (outing.hours - step - 1);
         int hopeInAll = Math.min(litersAfloat(trial), fleet.roomLeft(trial, outing.skimmer));
         for (int cell = 0; cell < CELLS; cell++) {
-            if (!net.isWayOverSea(from, cell, skimmer.speed)) {
+            if (!isWayOverSea(net, from, cell, skimmer.speed)) {
                 continue;
             }
             int gain = fleet.canTake(trial, outing.skimmer, cell);
@@ -425,6 +425,24 @@ public final class OilWatch {
         fleet.take(trials[next], outing.skimmer, cell);
         fleet.skim(trials[next], outing.skimmer + 1, fleet.size);
         searchHour(next, cell, taken);
+    }
+
+    // ---- ways over sea
+
+    /** Each level deeper has a step less, and without steps left there is none: three levels at most. */
+    private static boolean isWayOverSea(Net net, int from, int to, int steps) {
+        if (steps < 0 || !net.isSea(from) || !net.isSea(to) || Net.distance(from, to) > steps) {
+            return false;
+        }
+        if (from == to) {
+            return true;
+        }
+        for (int way = NORTH; way <= WEST; way++) {
+            if (isWayOverSea(net, Net.ahead(from, way), to, steps - 1)) {
+                return true;
+            }
+        }
+        return false;
     }
 
     // ---- ships and samples
@@ -549,21 +567,6 @@ public final class OilWatch {
 
         static int distance(int a, int b) {
             return Math.abs(a / COLUMNS - b / COLUMNS) + Math.abs(a % COLUMNS - b % COLUMNS);
-        }
-
-        boolean isWayOverSea(int from, int to, int steps) {
-            if (!isSea(from) || !isSea(to) || distance(from, to) > steps) {
-                return false;
-            }
-            if (from == to) {
-                return true;
-            }
-            for (int way = NORTH; way <= WEST; way++) {
-                if (isWayOverSea(ahead(from, way), to, steps - 1)) {
-                    return true;
-                }
-            }
-            return false;
         }
     }
 
