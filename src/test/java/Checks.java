@@ -1,3 +1,8 @@
+import java.lang.reflect.Method;
+import java.lang.reflect.Modifier;
+import java.util.Arrays;
+import java.util.Comparator;
+
 /** Collects answers that are not as due; a test ends with exit code 1 if there was one. */
 final class Checks {
     private final String title;
@@ -23,6 +28,24 @@ final class Checks {
 
     void due(String call, boolean got, boolean want) {
         due(call, got ? 1 : 0, want ? 1 : 0);
+    }
+
+    /** Every static method without parameters and without an answer is a test of its own, and must check something. */
+    void runEachTestOf(Class<?> type) throws ReflectiveOperationException {
+        Method[] methods = type.getDeclaredMethods();
+        Arrays.sort(methods, Comparator.comparing(Method::getName));
+        for (Method method : methods) {
+            boolean isTest = Modifier.isStatic(method.getModifiers()) && !method.isSynthetic()
+                && method.getParameterCount() == 0 && method.getReturnType() == void.class;
+            if (isTest) {
+                at(method.getName());
+                int before = made;
+                method.setAccessible(true);
+                method.invoke(null);
+                at(method.getName());
+                due("the test checks something", made > before, true);
+            }
+        }
     }
 
     boolean hasWrong() {

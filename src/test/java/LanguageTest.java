@@ -36,7 +36,7 @@ public final class LanguageTest {
             membersKeepTheRules(one);
         }
         wordsKeepTheRules(code);
-        methodsAreShort(code);
+        methodsKeepTheRules(code);
         CHECKS.finish();
     }
 
@@ -121,21 +121,31 @@ public final class LanguageTest {
     }
 
     /** A method of the file begins where a line with parameters opens a brace at a class's depth. */
-    private static void methodsAreShort(String code) {
-        CHECKS.at("rule 11");
+    private static void methodsKeepTheRules(String code) {
         int length = 0;
-        String name = "";
+        String head = "";
         for (String line : code.split("\n")) {
             boolean begins = line.matches("( {4}| {8})(\\w[\\w\\[\\] ]*) \\w+\\(.*")
                 && !line.matches(" *(return|if|for|while|switch|else)\\b.*") && !line.endsWith(";");
             if (begins) {
-                name = line.trim();
+                head = line.trim();
                 length = 0;
+            } else if (!head.isEmpty()) {
+                callToItselfIsOfAPrivateStaticMethod(head, line);
             }
             length++;
-            if (line.matches("( {4}| {8})\\}") && !name.isEmpty()) {
-                CHECKS.due(name + " has at most 60 lines", length <= 60, true);
+            if (line.matches("( {4}| {8})\\}") && !head.isEmpty()) {
+                CHECKS.at("rule 11");
+                CHECKS.due(head + " has at most 60 lines", length <= 60, true);
             }
+        }
+    }
+
+    private static void callToItselfIsOfAPrivateStaticMethod(String head, String line) {
+        String name = head.replaceAll("\\(.*", "").replaceAll(".* ", "");
+        if (found(line, "(?<![.\\w])" + name + "\\(") > 0) {
+            CHECKS.at("rule 8");
+            CHECKS.due(head + " is private static", head.startsWith("private static "), true);
         }
     }
 }

@@ -4,7 +4,8 @@ import java.util.Random;
 /** Runs of calls drawn by a fixed seed, each answer compared with the plain model's. */
 public final class ModelTest {
     private static final int RUNS = 400;
-    private static final int DRAWS = 512;
+    private static final int MOST_CALLS = 512;
+    private static final int MOST_CALLS_OF_A_DRAW = 6;
     private static final int KINDS = 20;
 
     private final Checks checks;
@@ -14,12 +15,15 @@ public final class ModelTest {
     private final ArrayDeque<String> latest = new ArrayDeque<>();
     private final int home;
     private final int longestGo;
+    private final boolean beginsLate;
+    private int calls;
 
     private ModelTest(Checks checks, int run) {
         this.checks = checks;
         random = new Random(run);
         home = random.nextInt(96);
         longestGo = run % 4 == 0 ? 48 : run % 4 == 1 ? 12 : 3;
+        beginsLate = run % 8 == 5;
     }
 
     public static void main(String[] args) {
@@ -31,11 +35,15 @@ public final class ModelTest {
         checks.finish();
     }
 
+    /** What an object answers after 512 calls is free. */
     private void runCalls() {
         for (int i = 0; i < 40; i++) {
             callKind(i < 25 ? 0 : i < 30 ? 4 : random.nextInt(KINDS));
         }
-        for (int i = 40; i < DRAWS - 12 && !checks.hasWrong(); i++) {
+        for (int i = 0; i < 10 && beginsLate; i++) {
+            due("go(48)", watch.go(48), model.go(48));
+        }
+        while (calls + MOST_CALLS_OF_A_DRAW <= MOST_CALLS - 12 && !checks.hasWrong()) {
             callKind(random.nextInt(KINDS));
         }
         for (int what = 0; what <= 11; what++) {
@@ -47,6 +55,7 @@ public final class ModelTest {
     }
 
     private void due(String call, long got, long want) {
+        calls++;
         latest.add(call + " = " + want);
         checks.due(call, got, want);
     }
@@ -138,7 +147,7 @@ public final class ModelTest {
 
     private void callWeather() {
         int world = about(0, 2);
-        int hour = Math.min(501, watch.count(0) + (random.nextInt(4) == 0 ? about(0, 30) : about(0, 3)));
+        int hour = Math.min(501, model.count(0) + (random.nextInt(4) == 0 ? about(0, 30) : about(0, 3)));
         int way = about(0, 4);
         int force = about(0, 9);
         due("weather(" + world + ", " + hour + ", " + way + ", " + force + ")",
@@ -177,7 +186,7 @@ public final class ModelTest {
                 callBest();
                 break;
             case 14: {
-                int hour = Math.max(0, watch.count(0) - random.nextInt(20)) + random.nextInt(2);
+                int hour = Math.max(0, model.count(0) - random.nextInt(20)) + random.nextInt(2);
                 int mark = mark();
                 if (random.nextInt(5) == 0) {
                     due("ship(" + mark + ", " + a + ", " + hour + ")", watch.ship(mark, a, hour),

@@ -66,7 +66,7 @@ public final class RobustTest {
         }
     }
 
-    /** Two objects get the same calls; one gets calls with wild arguments too, as long as they are refused. */
+    /** Two objects get the same calls; one gets calls with wild arguments too, as long as they are refused; 507 calls each. */
     private static void refusedChangesNothing() throws ReflectiveOperationException {
         List<Method> methods = face();
         for (int run = 0; run < 40; run++) {
@@ -74,7 +74,7 @@ public final class RobustTest {
             Random random = new Random(1000 + run);
             OilWatch x = new OilWatch();
             OilWatch y = new OilWatch();
-            for (int i = 0; i < 250; i++) {
+            for (int i = 0; i < 200; i++) {
                 Method method = methods.get(random.nextInt(methods.size()));
                 Integer[] wild = draw(random, method.getParameterCount(), true);
                 long answer = number(method.invoke(x, (Object[]) wild));
