@@ -21,7 +21,7 @@ public final class RobustTest {
         CHECKS.finish();
     }
 
-    private static List<Method> face() {
+    static List<Method> face() {
         List<Method> methods = new ArrayList<>();
         for (Method method : OilWatch.class.getDeclaredMethods()) {
             if (Modifier.isPublic(method.getModifiers())) {
